@@ -13,6 +13,7 @@ public final class SignsTest {
         signsCantBeTold();
         signsPastTheLimits();
         sameness();
+        samenessOfSets();
         CHECKS.finish();
     }
 
@@ -156,20 +157,35 @@ public final class SignsTest {
         CHECKS.due("0 and x", h.same(zero, x), false);
         CHECKS.due("x and 2x", h.same(x, h.add(x, x)), false);
         CHECKS.due("xxx and xxx + x", h.same(Checks.polynomial(h, 0, 0, 0, 1), Checks.polynomial(h, 0, 1, 0, 1)), false);
+        CHECKS.due("xxx and 2xxx", h.same(Checks.polynomial(h, 0, 0, 0, 1), Checks.polynomial(h, 0, 0, 0, 2)), false);
+        CHECKS.due("a set and 0", h.same(h.where(x, 0), zero), false);
+        CHECKS.due("0 and a set", h.same(zero, h.where(x, 0)), false);
+        CHECKS.refuses(h, INDEX, "same(0, -1)", () -> h.same(0, -1));
+        CHECKS.refuses(h, INDEX, "same(80, 0)", () -> h.same(80, 0));
+        CHECKS.refuses(h, INDEX, "same(0, count)", () -> h.same(0, h.count()));
+    }
+
+    private static void samenessOfSets() {
+        FormulaHouse h = new FormulaHouse();
+        int x = h.letter();
         int open = h.where(x, 1);
         int closed = h.where(x, 2);
         CHECKS.due("open and closed", h.same(open, closed), false);
-        CHECKS.due("open twice", h.same(open, h.where(h.times(x, half), 1)), true);
+        CHECKS.due("open twice", h.same(open, h.where(h.add(x, x), 1)), true);
         CHECKS.due("open and its other side", h.same(open, h.where(h.times(x, h.number(-1, 1)), 1)), false);
         CHECKS.due("another end", h.same(open, Checks.leftOf(h, 1, false)), false);
         int none = h.both(open, h.other(open));
         CHECKS.due("none and all", h.same(none, h.other(none)), false);
-        CHECKS.due("none twice", h.same(none, h.where(half, 0)), true);
-        CHECKS.due("a set and 0", h.same(none, zero), false);
-        CHECKS.due("0 and a set", h.same(zero, none), false);
+        CHECKS.due("none twice", h.same(none, h.where(h.number(1, 2), 0)), true);
         CHECKS.due("a point and its other", h.same(h.where(x, 0), h.other(h.where(x, 0))), false);
-        CHECKS.refuses(h, INDEX, "same(0, -1)", () -> h.same(0, -1));
-        CHECKS.refuses(h, INDEX, "same(80, 0)", () -> h.same(80, 0));
-        CHECKS.refuses(h, INDEX, "same(0, count)", () -> h.same(0, h.count()));
+        int wide = Checks.polynomial(h, -4, 0, 1);
+        int half = h.both(h.where(wide, 2), Checks.leftOf(h, 2, false));
+        int beyond = h.either(half, Checks.rightOf(h, 2, false));
+        CHECKS.due("half", Checks.set(h, half), "[-2, 2)");
+        CHECKS.due("beyond", Checks.set(h, beyond), "[-2, 2) (2, ..)");
+        CHECKS.due("they differ right of the last end", h.same(half, beyond), false);
+        CHECKS.due("they differ at the last end", h.same(half, h.where(wide, 2)), false);
+        CHECKS.due("they differ at the first end", h.same(half, h.where(wide, 1)), false);
+        CHECKS.due("made in two ways", h.same(h.where(wide, 2), h.either(h.where(wide, 0), half)), true);
     }
 }
