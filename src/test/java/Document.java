@@ -39,6 +39,11 @@ final class Document {
         return text.strip().replaceAll("\\s+", " ");
     }
 
+    /** In their order, without the title above them. */
+    List<String> headings() {
+        return sections.keySet().stream().filter(heading -> !heading.isEmpty()).toList();
+    }
+
     /** The checks that follow are on these words of a section. */
     void says(String heading, String words) {
         boolean there = sections.getOrDefault(heading, "").contains(plain(words));

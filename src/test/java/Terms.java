@@ -27,7 +27,6 @@ final class Terms {
         cantBeTold();
         canBeTold();
         assumedAtFirst();
-        fiveHundredAndTwelveCalls();
     }
 
     private void says(String words) {
@@ -265,19 +264,5 @@ final class Terms {
         checks.due("sign of x - 1/2 at 1/2", h.sign(Written.made(h, "-1/2 1")), 0);
         FormulaHouse second = new FormulaHouse();
         checks.due("sign of x in a second house", second.sign(second.letter()), 2);
-    }
-
-    private void fiveHundredAndTwelveCalls() {
-        document.says("What it is", "An object is used for at most 512 calls after it has been made;"
-                + " what later calls answer is free.");
-        FormulaHouse h = new FormulaHouse();
-        int wrong = 0;
-        for (int call = 1; call < 512; call++) {
-            int due = Math.min(call - 1, 79);
-            int got = call <= 80 ? h.number(call % 60, 1) : call % 2 == 0 ? h.count() - 1 : h.at(79, 0, 0) + 59;
-            wrong += got == due ? 0 : 1;
-        }
-        checks.due("wrong ones of 511 calls", wrong, 0);
-        checks.due("call 512", h.at(58, 0, 0), 59);
     }
 }
